@@ -84,8 +84,10 @@ public final class PromisesTest {
     due("2 anew", x.stuff(3, 3), 3);
     due("2 anew the bytes are 0", x.lay(3, 2, 0), 1000);
     due("2 the weight stays", x.weigh(3, 8), 7);
+    x.lay(3, 0, 4);
     x.lay(3, 2, 5);
     x.stuff(3, 1);
+    due("2 the first byte, too", x.lay(3, 0, 0), 1000);
     x.stuff(3, 3);
     due("2 shorter and longer again", x.lay(3, 2, 0), 1000);
   }
@@ -170,6 +172,9 @@ public final class PromisesTest {
     x.lay(0, 0, -5);
     x.lay(0, 1, -3);
     due("7 cut towards 0", x.mean(0), -2);
+    x.stuff(1, 1);
+    x.lay(1, 0, 6);
+    due("7 of one", x.mean(1), 6);
     x.stuff(1, 0);
     dueFinding("7 among none", x, 1, x.mean(1), NOUGHT);
     dueFinding("7 missing", x, 1, x.mean(2), NOTHING);
@@ -243,6 +248,7 @@ public final class PromisesTest {
 
   private static void promise12Move() {
     HotPipes x = bent();
+    dueAsked("12 the anchor", x, x.move(0, 2), 1, 0);
     dueAsked("12 ahead of the rise", x, x.move(12, 2), 1, 0);
     dueAsked("12 in the rise", x, x.move(13, 2), 1, 25);
     dueAsked("12 behind it", x, x.move(27, 2), 1, 150);
@@ -271,6 +277,11 @@ public final class PromisesTest {
     dueAsked("13 just not", x, x.soft(0, 1), 0, -20);
     x.lay(0, 0, -1);
     dueAsked("13 shrinking is as stiff", x, x.soft(0, 1), 0, -20);
+    x = new HotPipes();
+    x.stuff(0, 1);
+    x.lay(0, 0, 1);
+    x.leg(0, 1, 0);
+    dueAsked("13 by one", x, x.soft(0, 1), 0, -1);
   }
 
   private static void promise14Loop() {
@@ -291,6 +302,54 @@ public final class PromisesTest {
     due("14 BAD ahead of STATE", x.loop(3, 0, 3, 60), BAD);
     x.leg(2, 3, 0);
     due("14 just long enough", x.loop(4, 0, 0, 1), 1);
+  }
+
+  /** One straight leg of 10 units: a loop of d lets 30 * 4 d d. */
+  private static void promise14Limits() {
+    HotPipes x = new HotPipes();
+    x.stuff(0, 1);
+    x.leg(0, 10, 0);
+    x.lay(0, 0, 12);
+    due("14 just let", x.loop(0, 2, 0, 1), 1);
+    x.lay(0, 0, 13);
+    due("14 just not let", x.loop(0, 2, 0, 1), 2);
+    x.lay(0, 0, 48);
+    due("14 the longest", x.loop(0, 2, 0, 100), 20);
+    dueAsked("14 the longest is the best", x, x.bestLoop(0, 100), 0, 220);
+    x.lay(0, 0, 49);
+    due("14 too long", x.loop(0, 2, 0, 100), NONE);
+    due("14 too long for all", x.bestLoop(0, 100), NONE);
+  }
+
+  /** The run comes back and crosses over LEG 0, two above it, so many units from its begin. */
+  private static HotPipes crossed(int way, int units, int over) {
+    HotPipes x = new HotPipes();
+    x.stuff(0, 1);
+    x.leg(way, units, 0);
+    x.leg(2, 3, 0);
+    x.leg(4, 2, 0);
+    if (units > over) x.leg(way ^ 1, units - over, 0);
+    x.leg(3, 6, 0);
+    return x;
+  }
+
+  private static void promise14Feet() {
+    for (int way = 0; way < 2; way++) {
+      for (int units = 3; units <= 14; units++) {
+        int third = units / 3;
+        for (int over = -1; over <= units; over++) {
+          boolean foot = over == third || over == 2 * third;
+          boolean middle = over > third && over < 2 * third;
+          HotPipes x = crossed(way, units, over);
+          for (int v = 0; v <= 127; v++) {
+            x.lay(0, 0, v);
+            int free = x.loop(0, 5, 0, 100);
+            int want = foot && free > 1 ? NONE : middle && free == 2 ? 3 : free;
+            due("14 feet " + way + ", " + units + ", " + over + ", " + v, x.loop(0, 4, 0, 100), want);
+          }
+        }
+      }
+    }
   }
 
   /** So long and straight that no loop makes it soft. */
@@ -322,6 +381,13 @@ public final class PromisesTest {
     due("14 the far foot meets it", x.loop(0, 4, 0, 100), NONE);
     due("14 a shorter one is free", x.loop(0, 4, 0, 1), 1);
     midRoof();
+    x = new HotPipes();
+    x.leg(0, 9, 0);
+    x.leg(4, 1, 0);
+    x.leg(1, 9, 0);
+    due("14 no room for 1", x.loop(0, 4, 0, 1), NONE);
+    due("14 none from above", x.loop(2, 5, 0, 1), NONE);
+    due("14 room above", x.loop(2, 4, 0, 1), 1);
   }
 
   /** As roofed, with growth for which thickness 100 wants a loop of 2. */
@@ -397,6 +463,7 @@ public final class PromisesTest {
     due("16 rate not looked at", x.rest(3, 13, -7), 1);
     due("16 at one place", x.rest(0, 13, 0), BAD);
     x.drop(1);
+    due("16 at the place of the first", x.rest(0, 1, 0), BAD);
     due("16 at the place of a dropped one", x.rest(1, 13, 0), 2);
     for (int i = 3; i < 12; i++) due("16 up to twelve", x.rest(0, i, 0), i);
     due("16 thirteen", x.rest(0, 2, 0), FULL);
@@ -473,8 +540,11 @@ public final class PromisesTest {
     due("20 no move", x.lifts(4, 2), 0);
     x.lay(0, 2, -1);
     due("20 down", x.lifts(0, 2), 0);
+    x.rest(0, 13, 0);
+    x.lay(0, 2, 1);
+    due("20 by one thousandth", x.lifts(5, 2), 1);
     for (int step : new int[] {-1, 16}) due("20 no step", x.lifts(0, step), BAD);
-    for (int r : new int[] {-1, 5}) due("20 no rest", x.lifts(r, 0), BAD);
+    for (int r : new int[] {-1, 6}) due("20 no rest", x.lifts(r, 0), BAD);
     x.drop(0);
     dueFinding("20 dropped", x, 1, x.lifts(0, 1), NOTHING);
     due("20 BAD ahead of a finding", x.lifts(0, 16), BAD);
@@ -634,6 +704,8 @@ public final class PromisesTest {
     x.amount(4, -3, 1, 2);
     dueAsked("28 what adds nothing stays out", x, x.worst(), 202, 6);
     x = new HotPipes();
+    x.amount(0, 1, 1, 1);
+    dueAsked("28 the least above none", x, x.worst(), 1, 1);
     for (int c = 0; c < 8; c++) x.amount(c, -1, 1, 1);
     x.where(0, 0);
     dueAsked("28 all below 0", x, x.worst(), 0, 0);
@@ -695,6 +767,8 @@ public final class PromisesTest {
     x.rest(2, 20, 50);
     x.rest(3, 24, 0);
     due("32 nothing was read", x.missing(0), STATE);
+    x.read(0, 150);
+    dueAsked("32 read as it is", x, x.missing(0), NONE, 0);
     for (int step : new int[] {-1, 16}) due("32 no step", x.missing(step), BAD);
     x.read(0, 150);
     x.read(1, 140);
@@ -725,6 +799,8 @@ public final class PromisesTest {
     x.rest(0, 3, 0);
     x.rest(0, 6, 0);
     // Each bears 60 doubled; without the other one 90.
+    x.read(0, 65);
+    dueAsked("32 read only of the first, taken away", x, x.missing(0), 0, 0);
     x.read(0, 90);
     x.read(1, 90);
     dueAsked("32 alike: the least rest", x, x.missing(0), 0, 0);
@@ -861,7 +937,9 @@ public final class PromisesTest {
     promise12Move();
     promise13Soft();
     promise14Loop();
+    promise14Limits();
     promise14Free();
+    promise14Feet();
     promise15BestLoop();
     promise16Rest();
     promise17Drop();
