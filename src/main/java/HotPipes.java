@@ -942,11 +942,14 @@ public final class HotPipes {
             return false;
         }
 
-        /** How far twice the LOADS are from what was READ, over all that are there but the one left out. */
+        /**
+         * How far twice the LOADS are from what was READ, over all of which it was told but the one left out.
+         * One beyond the end of the run bears nothing, yet what was READ of it still has to be explained.
+         */
         int differenceWithout(int leftOut) {
             int sum = 0;
             for (int r = 0; r < made; r++) {
-                if (isRead(r) && isPresent(r) && r != leftOut) {
+                if (isRead(r) && r != leftOut) {
                     sum += Math.abs(twiceLoad(r, leftOut) - readings[r]);
                 }
             }

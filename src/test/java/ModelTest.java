@@ -204,7 +204,7 @@ public final class ModelTest {
     long sumWithout(int without, int step) {
       long sum = 0;
       for (int r = 0; r < supports.size(); r++) {
-        if (r != without && there(r) && supports.get(r).read != NONE) {
+        if (r != without && supports.get(r) != null && supports.get(r).read != NONE) {
           sum += Math.abs(twiceLoad(r, step, without) - supports.get(r).read);
         }
       }

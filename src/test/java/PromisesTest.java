@@ -808,7 +808,29 @@ public final class PromisesTest {
     x.rest(0, 12, 0);
     x.read(2, 1000);
     x.cut();
-    dueAsked("32 one that is not there", x, x.missing(0), 0, 0);
+    dueAsked("32 one that is not there is compared with 0", x, x.missing(0), 0, 1000);
+    x.drop(2);
+    dueAsked("32 one that is dropped is not", x, x.missing(0), 0, 0);
+    readOnlyBeyondTheEnd();
+  }
+
+  private static void readOnlyBeyondTheEnd() {
+    HotPipes x = new HotPipes();
+    x.leg(0, 9, 0);
+    x.leg(0, 7, 0);
+    x.rest(0, 4, 0);
+    x.rest(0, 9, 0);
+    x.read(1, 30);
+    x.cut();
+    dueAsked("32 not there at L itself: no choice, but compared", x, x.missing(0), NONE, 30);
+    x.leg(0, 7, 0);
+    // There again, it bears 120 doubled; taken away, nothing read is left to compare.
+    dueAsked("32 there again: a choice", x, x.missing(0), 1, 0);
+    x.cut();
+    x.cut();
+    dueAsked("32 no run at all", x, x.missing(0), NONE, 30);
+    x.drop(1);
+    due("32 the only one beyond is dropped", x.missing(0), STATE);
   }
 
   private static void promise33Asked() {
