@@ -875,8 +875,9 @@ public final class HotPipes {
             return own == kind || kind == REST || (kind == HANGER && own == SPRING);
         }
 
+        /** One beyond the end of the run has no PLACE on it that could MOVE away. */
         boolean isLifted(int r, int step) {
-            boolean canLift = kinds[r] == REST || kinds[r] == HANGER;
+            boolean canLift = isPresent(r) && (kinds[r] == REST || kinds[r] == HANGER);
             return canLift && run.growth(places[r], step, Z) > 0;
         }
 

@@ -158,7 +158,7 @@ public final class ModelTest {
 
     boolean lifted(int r, int step) {
       Support s = supports.get(r);
-      return s.kind <= 1 && moveOf(s.place, step) > 0;
+      return there(r) && s.kind <= 1 && moveOf(s.place, step) > 0;
     }
 
     int twiceLoad(int rest, int step, int without) {

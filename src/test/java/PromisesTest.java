@@ -548,6 +548,33 @@ public final class PromisesTest {
     x.drop(0);
     dueFinding("20 dropped", x, 1, x.lifts(0, 1), NOTHING);
     due("20 BAD ahead of a finding", x.lifts(0, 16), BAD);
+    liftsOnlyIfThere();
+  }
+
+  private static void liftsOnlyIfThere() {
+    HotPipes x = bent();
+    int end = 18;
+    for (int place = end - 1; place <= end + 1; place++) x.rest(0, place, 0);
+    x.rest(1, end + 2, 0);
+    x.rest(1, end - 2, 0);
+    for (int r = 0; r < 5; r++) due("20 ahead of cut(), rest " + r, x.lifts(r, 2), 1);
+    x.cut();
+    due("20 L after cut()", x.count(1), end);
+    int[] want = {1, 0, 0, 0, 1};
+    for (int r = 0; r < 5; r++) {
+      due("20 there after cut(), rest " + r, x.told(r, 3), want[r]);
+      due("20 after cut(), rest " + r, x.lifts(r, 2), want[r]);
+    }
+    due("20 not there is no finding", x.finding(), 0);
+    due("20 not there, no step", x.lifts(1, 16), BAD);
+    x.leg(2, 2, 0);
+    due("20 there again", x.lifts(1, 2), 1);
+    due("20 there again, the last place", x.lifts(2, 2), 1);
+    due("20 at the end still", x.lifts(3, 2), 0);
+    while (x.count(0) > 0) x.cut();
+    for (int r = 0; r < 5; r++) due("20 no legs, rest " + r, x.lifts(r, 2), 0);
+    x.drop(1);
+    dueFinding("20 not there and dropped", x, 1, x.lifts(1, 2), NOTHING);
   }
 
   private static void promise21Load() {
@@ -584,9 +611,12 @@ public final class PromisesTest {
     dueFraction("22 cold", x, x.change(0, 0), 1, 0, 1);
     x.lay(0, 2, -25);
     dueFraction("22 down", x, x.change(0, 2), 1, 15, 4);
+    x.rest(2, 20, 40);
+    x.cut();
+    dueFraction("22 beyond the end: the move of all units", x, x.change(2, 2), 1, 6, 1);
     dueFinding("22 no spring", x, 1, x.change(1, 2), UNLIKE);
     for (int step : new int[] {-1, 16}) due("22 no step", x.change(0, step), BAD);
-    for (int r : new int[] {-1, 2}) due("22 no rest", x.change(r, 0), BAD);
+    for (int r : new int[] {-1, 3}) due("22 no rest", x.change(r, 0), BAD);
     due("22 BAD ahead of a finding", x.change(1, 16), BAD);
     x.drop(0);
     dueFinding("22 dropped", x, 1, x.change(0, 2), NOTHING);
