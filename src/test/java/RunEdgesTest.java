@@ -255,6 +255,22 @@ public final class RunEdgesTest {
     dueFinding("7 among none", x, x.mean(0), NOUGHT);
   }
 
+  /** Four full rows: each mean is of its own bytes alone; and none are its own, though all others are full. */
+  private static void promise07Full() {
+    int[] bytes = {-128, 127, -1, 100};
+    for (int empty = -1; empty < 4; empty++) {
+      HotPipes x = new HotPipes();
+      for (int s = 0; s < 4; s++) {
+        x.stuff(s, s == empty ? 0 : 16);
+        for (int i = 0; i < 16 && s != empty; i++) x.lay(s, i, bytes[s]);
+      }
+      for (int s = 0; s < 4; s++) {
+        if (s == empty) dueFinding("7 among none, the others full", x, x.mean(s), NOUGHT);
+        else due("7 of full rows, STUFF " + s, x.mean(s), bytes[s]);
+      }
+    }
+  }
+
   // ---- promise 8: "A LEG behind the others: how many there are." "(12 at most)", "WAY 0 .. 5", "1 to 20 units"
 
   private static void promise08EachLeg() {
@@ -632,7 +648,8 @@ public final class RunEdgesTest {
   }
 
   private static void promise14Free() {
-    int[] aways = {-2, -1, 1, 2, 3, 19, 20, 21};
+    // 32 and more are far beyond any LOOP: a row of bits in an int would wrap around there.
+    int[] aways = {-2, -1, 1, 2, 3, 19, 20, 21, 31, 32, 33, 34, 40};
     for (int own = 0; own < 6; own++) {
       for (int out = 0; out < 6; out++) {
         if (own / 2 == out / 2) continue;
@@ -793,6 +810,7 @@ public final class RunEdgesTest {
     promise05Most();
     promise06Weights();
     promise07Mean();
+    promise07Full();
     promise08EachLeg();
     promise08Twelve();
     promise09Cut();
